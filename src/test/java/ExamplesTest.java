@@ -1,6 +1,8 @@
 /** Promises 6 to 34, 43 to 58, 63 to 70, 75 and 76: streets worked out by hand, and edges. */
 public final class ExamplesTest {
     public static void main(String[] args) {
+        noStreet(new ParkingTrees());
+        noStreet(emptied());
         lawfulStreet();
         lostStreet();
         laws();
@@ -23,6 +25,30 @@ public final class ExamplesTest {
         for (int i = 0; i < Math.min(got.length, want.length); i++) {
             Kit.due(call + " " + i, got[i], want[i]);
         }
+    }
+
+    private static ParkingTrees emptied() {
+        ParkingTrees x = Kit.told("street places 3 law 1 odds 5;car wants 1 stands 5;join 1 2;");
+        x.wants(0, 2);
+        x.street();
+        return x;
+    }
+
+    private static void noStreet(ParkingTrees x) {
+        int[] got = {x.car(0, 0), x.place(0), x.steps(0), x.lost(), x.free(), x.holder(1), x.lucky(), x.sum(),
+            x.worst(), x.runs(), x.sorted(0), x.lawful(), x.prime(), x.breaks(), x.likes(), x.ring(0), x.hole(),
+            x.shifts(), x.shifted(0, 0), x.parent(0), x.depth(0), x.kids(0), x.queue(0), x.leaves(), x.inversions(),
+            x.code(0), x.burnt(0), x.turned(), x.visit(0), x.above(0, 0), x.wish(0, 0), x.regain(0, 0), x.upset(0),
+            x.rows(1), x.moved(1, 0), x.trees(1, 0), x.ends(1, 1), x.label(0), x.merged(0), x.blocks(), x.block(1),
+            x.next(), x.may(1, 2), x.labels(1, 2), x.chain(), x.region(0), x.across(0, 1), x.fences(), x.far(),
+            x.astride(), x.mend(), x.swap(), x.blame(), x.fits(0, 0), x.ask(0, 0), x.remain(0, 0), x.laws(0), x.by(0),
+            x.law(), x.worth(0), x.rests(0, 1), x.chance(0, 0), (int) x.mean(0), x.wants(0, 1), x.trades(0, 1),
+            x.undo(), x.anew(), x.drawn(0, 0), x.luck(0, 1, 0), x.rate(0, 0)};
+        for (int i = 0; i < got.length; i++) {
+            Kit.due("no STREET, call " + i, got[i], -2);
+        }
+        Kit.due("no STREET, share", x.share(0, 0), -1000000);
+        Kit.due("no STREET, gets", x.gets(0, 1, 0, 0), -1000);
     }
 
     private static void lawfulStreet() {
@@ -216,6 +242,8 @@ public final class ExamplesTest {
         Kit.due("blame", y.blame(), 0);
         Kit.due("blame of one that is alone", Kit.wishes(2, 0, 5, 2).blame(), -1);
         Kit.due("swap", Kit.wishes(4, 1, 0, 3, 3, 3, 4).swap(), 3);
+        // the last two have one STEP each, if 2 comes ahead of 4
+        Kit.due("swap of neighbours", Kit.wishes(5, 1, 0, 2, 4, 1, 4, 2).swap(), 34);
     }
 
     private static void shares() {

@@ -43,6 +43,7 @@ public final class TapeTest {
         Kit.due("feed at 481", x.feed(0, 0, 0, 0, 0), -1);
         Kit.due("count(7)", x.count(7), 481);
         Kit.due("end(482)", x.end(482), -1);
+        Kit.due("end(481), all", x.end(481), 481);
         Kit.due("end(480)", x.end(480), 480);
         Kit.due("feed at 480", x.feed(0, 0, 0, 0, 0), 500);
         Kit.due("end(0)", x.end(0), 0);
@@ -119,6 +120,8 @@ public final class TapeTest {
         refused("street " + (char) 0xf3, 1, 7);
         refused(HEAD + HEAD, 1, 29);
         refused(HEAD + "cars", 1, 29);
+        refused(HEAD + "carz wants 1", 1, 29);
+        refused(HEAD + "acar wants 1", 1, 29);
         refused(HEAD + "car 1", 1, 33);
         refused(HEAD + "car wants 0 stands 100", 2, 39);
         refused(HEAD + "car wants 4", 2, 39);
