@@ -1,12 +1,19 @@
 import java.util.ArrayList;
 import java.util.List;
+import java.util.function.IntUnaryOperator;
 
 /** What the tests share: telling a street, comparing answers, the exit code. */
 final class Kit {
     private static int wrong = 0;
     private static int asked = 0;
+    private static String part = "";
 
     private Kit() {
+    }
+
+    /** What is told ahead of each answer that is not as due, from now on. */
+    static void part(String name) {
+        part = name + ": ";
     }
 
     static void due(String call, long got, long want) {
@@ -14,8 +21,25 @@ final class Kit {
         if (got != want) {
             wrong++;
             if (wrong <= 40) {
-                System.out.println(call + " answered " + got + ", due is " + want);
+                System.out.println(part + call + " answered " + got + ", due is " + want);
             }
+        }
+    }
+
+    /** The call is refused just outside of its bounds and far outside, and not at the bounds. */
+    static void bounded(String call, IntUnaryOperator asked, int refusal, int least, int most) {
+        for (int bad : new int[] {Integer.MIN_VALUE, least - 1, most + 1, Integer.MAX_VALUE}) {
+            due(call + " of " + bad, asked.applyAsInt(bad), refusal);
+        }
+        for (int good : new int[] {least, most}) {
+            due(call + " of " + good + " is refused", asked.applyAsInt(good) == refusal ? 1 : 0, 0);
+        }
+    }
+
+    /** The call of 0, 1, .. (or from another number on) has these answers. */
+    static void each(String call, IntUnaryOperator asked, int from, int... answers) {
+        for (int i = 0; i < answers.length; i++) {
+            due(call + " of " + (from + i), asked.applyAsInt(from + i), answers[i]);
         }
     }
 

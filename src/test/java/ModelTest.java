@@ -8,13 +8,17 @@ import java.util.TreeSet;
 
 /** Streets drawn with fixed seeds: every call that only asks is held against the Model. */
 public final class ModelTest {
-    private static final Map<Integer, Map<List<Integer>, int[]>> TREES = new TreeMap<>();
+    /** Trees of up to four CARS by their CODES. */
+    static final Map<Integer, Map<List<Integer>, int[]>> TREES = new TreeMap<>();
 
-    public static void main(String[] args) {
-        Random random = new Random(20261118);
+    static {
         for (int n = 1; n <= 4; n++) {
             TREES.put(n, Model.treesByCode(n));
         }
+    }
+
+    public static void main(String[] args) {
+        Random random = new Random(20261118);
         for (int i = 0; i < 1500; i++) {
             Model m = draw(random);
             ParkingTrees x = new ParkingTrees();
@@ -22,21 +26,26 @@ public final class ModelTest {
             if (random.nextInt(3) == 0) {
                 act(x, m, random);
             }
-            parking(x, m);
-            rows(x, m);
-            ring(x, m);
-            trees(x, m);
-            codes(x, m, random);
-            blocks(x, m);
-            fences(x, m);
-            advice(x, m);
-            seen(x, m, random);
-            shares(x, m);
-            games(x, m);
-            chances(x, m);
-            mornings(x, m, random);
+            holdAll(x, m, random);
         }
         Kit.finish();
+    }
+
+    /** Every call that only asks, of a street that is told and acted as the Model has it. */
+    static void holdAll(ParkingTrees x, Model m, Random random) {
+        parking(x, m);
+        rows(x, m);
+        ring(x, m);
+        trees(x, m);
+        codes(x, m, random);
+        blocks(x, m);
+        fences(x, m);
+        advice(x, m);
+        seen(x, m, random);
+        shares(x, m);
+        games(x, m);
+        chances(x, m);
+        mornings(x, m, random);
     }
 
     private static Model draw(Random random) {
@@ -258,7 +267,7 @@ public final class ModelTest {
         }
     }
 
-    private static void blocks(ParkingTrees x, Model m) {
+    static void blocks(ParkingTrees x, Model m) {
         List<Set<Integer>> blocks = m.startBlocks();
         List<Integer> labels = new ArrayList<>();
         for (int i = 0; i < m.joins.size(); i++) {
@@ -288,7 +297,7 @@ public final class ModelTest {
         Kit.due("chain()", x.chain(), chain ? 1 : 0);
     }
 
-    private static void fences(ParkingTrees x, Model m) {
+    static void fences(ParkingTrees x, Model m) {
         int n = m.cars();
         int[] region = new int[n];
         int all = 0;
@@ -370,17 +379,24 @@ public final class ModelTest {
             Kit.due("by()", x.by(law), m.stepsOfRow(m.wishes, law));
         }
         Kit.due("law()", x.law(), best);
-        int sights = m.cars() == 0 ? 0 : random.nextInt(4);
-        x.row(0, 2, 2 * sights);
+        int[] row = new int[2 * (m.cars() == 0 ? 0 : random.nextInt(4))];
+        for (int i = 0; i < row.length; i += 2) {
+            row[i] = random.nextInt(m.cars());
+            row[i + 1] = random.nextInt(4) == 0 ? random.nextInt(m.places + 1) : m.parked().get(row[i]);
+        }
+        seenAs(x, m, row);
+    }
+
+    /** A row of SEEN, a CAR and its place each. */
+    static void seenAs(ParkingTrees x, Model m, int... row) {
+        x.row(0, 2, row.length);
         TreeMap<Integer, Integer> told = new TreeMap<>();
         boolean clash = false;
-        for (int i = 0; i < sights; i++) {
-            int car = random.nextInt(m.cars());
-            int place = random.nextInt(4) == 0 ? random.nextInt(m.places + 1) : m.parked().get(car);
-            x.write(0, 2 * i, car);
-            x.write(0, 2 * i + 1, place);
-            clash |= told.containsKey(car) && told.get(car) != place;
-            told.put(car, place);
+        for (int i = 0; i < row.length; i += 2) {
+            x.write(0, i, row[i]);
+            x.write(0, i + 1, row[i + 1]);
+            clash |= told.containsKey(row[i]) && told.get(row[i]) != row[i + 1];
+            told.put(row[i], row[i + 1]);
         }
         int laws = 0;
         for (int law = 0; law < 4 && !clash; law++) {
