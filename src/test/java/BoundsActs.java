@@ -96,6 +96,10 @@ final class BoundsActs {
         Kit.due("all want 8, the others are LOST", x.drawn(2000000000, 1), 0);
         Kit.bounded("seed", seed -> x.drawn(seed, 0), -2, 0, 2000000000);
         Kit.bounded("what", what -> x.drawn(0, what), -2, 0, 1);
+        ParkingTrees y = BoundsRows.alike(8, 3, 8);
+        // four come, and have 8, 1, 2, 3
+        Kit.due("sum() of those that come", y.drawn(2000000000, 1), 18);
+        Kit.due("the street stays", y.sum(), 28);
         Kit.due("no CARS", Kit.wishes(8, 0, 10).drawn(0, 0), 0);
         Kit.due("no CARS", Kit.wishes(8, 0, 10).drawn(0, 1), 0);
         Kit.due("no STREET", new ParkingTrees().drawn(0, 0), -2);
@@ -179,6 +183,41 @@ final class BoundsActs {
         Kit.due("back(1)", x.back(1), 0);
         Kit.due("the act is gone", x.undo(), -5);
         Kit.due("the wish is back", x.car(0, 0), 8);
+    }
+
+    static void p80_everyActIsKept() {
+        ParkingTrees x = Kit.told("street places 8 law 0 odds 5;car wants 8 stands 0;car wants 7 stands 0;"
+            + "car wants 6 stands 0;");
+        int[] first = new int[21];
+        int[] last = new int[21];
+        for (int acts = 0; acts <= 20; acts++) {
+            first[acts] = x.car(0, 0);
+            last[acts] = x.car(2, 0);
+            if (acts % 3 == 2) {
+                x.trades(2, acts % 2);
+            } else {
+                x.wants(acts % 3 * 2, 1 + acts % 7);
+            }
+        }
+        x.image(2);
+        x.anew();
+        // other acts of the other kind in their place
+        for (int i = 0; i < 20; i++) {
+            if (i % 3 == 2) {
+                x.wants(1, 4);
+            } else {
+                x.trades(1, 0);
+            }
+        }
+        Kit.due("back(2)", x.back(2), 0);
+        for (int acts = 20; acts >= 0; acts--) {
+            Kit.due("count(5)", x.count(5), acts);
+            Kit.due("CAR 0 behind " + acts, x.car(0, 0), first[acts]);
+            Kit.due("CAR 2 behind " + acts, x.car(2, 0), last[acts]);
+            x.undo();
+        }
+        Kit.due("back(2)", x.back(2), 0);
+        Kit.due("an IMAGE stays as it is", x.count(5), 20);
     }
 
     static void p81_row() {

@@ -204,6 +204,7 @@ final class BoundsRows {
         Kit.due("8 of 7", Kit.wishes(8, 0, 5, 7, 1, 1, 1, 1, 1, 1, 1).prime(), 1);
         Kit.due("not LAWFUL, for it are too few", Kit.wishes(3, 0, 5, 1, 1).prime(), 0);
         Kit.due("not LAWFUL", Kit.wishes(3, 0, 5, 1, 3, 3).prime(), 0);
+        Kit.due("not LAWFUL, of one place", none(1, 0).prime(), 0);
         Kit.due("no STREET", new ParkingTrees().prime(), -2);
     }
 

@@ -164,6 +164,24 @@ final class BoundsTape {
         faulty("street places 1 law 0 odds 0;;", 1, 29);
     }
 
+    static void t1_everyLetterOfEveryWord() {
+        String text = "street places 3 law 0 odds 0;car wants 1 stands 1;join 1 2;";
+        int word = 0;
+        for (int i = 0; i < text.length(); i++) {
+            boolean letter = Character.isLetter(text.charAt(i));
+            if (!letter) {
+                word = i + 1;
+                continue;
+            }
+            for (char other : new char[] {'a', 'm', 'z'}) {
+                if (text.charAt(i) != other) {
+                    faulty(text.substring(0, i) + other + text.substring(i + 1), 1, word);
+                }
+            }
+        }
+        good(text, 3);
+    }
+
     static void t1_theFirstFaultByItsPlace() {
         faulty("street places 9 law 9 odds 99;", 2, 14);
         faulty("street places 1 law 0 odds 99!", 2, 27);
@@ -265,8 +283,32 @@ final class BoundsTape {
         Kit.due("street()", x.street(), 1);
     }
 
+    static void p3_whatIsCutOffIsNotRead() {
+        cutOff("streets", 6, 1, 6);
+        cutOff("street places 12", 15, 1, 15);
+        cutOff("street places 1 law 0 odds 10;", 28, 1, 28);
+        cutOff("street places 1 law 0 odds 0;", 28, 1, 28);
+        cutOff("street places 1 law 0 odds 0;car", 31, 1, 29);
+        ParkingTrees x = new ParkingTrees();
+        Kit.feed(x, "street places 1 law 0 odds 0;!");
+        x.end(29);
+        Kit.due("a sign behind the end", x.street(), 1);
+        Kit.feed(x, "street");
+        x.end(0);
+        Kit.due("all of it", x.street(), 0);
+    }
+
+    private static void cutOff(String text, int length, int fault, int place) {
+        ParkingTrees x = new ParkingTrees();
+        Kit.feed(x, text);
+        Kit.due("end(" + length + ")", x.end(length), length);
+        Kit.due("'" + text + "' street()", x.street(), -4);
+        Kit.due("'" + text + "' fault(0)", x.fault(0), fault);
+        Kit.due("'" + text + "' fault(1)", x.fault(1), place);
+    }
+
     static void p4_emptyTapes() {
-        ParkingTrees x = Kit.wishes(2, 0, 5, 1);
+        ParkingTrees x = Kit.told("street places 2 law 3 odds 5;car wants 1 stands 9;join 1 2;");
         x.wants(0, 2);
         x.image(1);
         Kit.row(x, 2, 0, 1, 2);

@@ -126,6 +126,16 @@ final class BoundsTrees {
         Kit.due("no STREET", new ParkingTrees().code(0), -2);
     }
 
+    static void p31_codeBehindActs() {
+        ParkingTrees x = eight(UP);
+        Kit.each("up", x::code, 0, 1, 2, 3, 4, 5, 6, 7, -1);
+        x.wants(1, 1);
+        // NODE 1 and NODE 2 hang from 0, the others in a row from 2: 1 is taken off, then 0, 2, 3, ..
+        Kit.each("two hang from NODE 0", x::code, 0, 0, 2, 3, 4, 5, 6, 7, -1);
+        x.undo();
+        Kit.each("up again", x::code, 0, 1, 2, 3, 4, 5, 6, 7, -1);
+    }
+
     // ---- promises 32 to 34
 
     static void p32_burnt() {
