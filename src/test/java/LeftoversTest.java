@@ -74,7 +74,8 @@ public final class LeftoversTest {
         }
     }
 
-    private static List<Long> answers(ParkingTrees x, int c) {
+    /** What calls of every kind answer; the last of them act. */
+    static List<Long> answers(ParkingTrees x, int c) {
         List<Long> all = new ArrayList<>();
         add(all, x.code(0), x.code(1), x.code(5), x.upset(0), x.above(0, c), x.wish(0, c), x.regain(0, c));
         add(all, x.place(c), x.steps(c), x.lost(), x.free(), x.holder(c), x.lucky(), x.sum(), x.worst(), x.runs());
